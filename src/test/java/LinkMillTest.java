@@ -32,6 +32,7 @@ public final class LinkMillTest {
         linkReach();
         linkNames();
         linkRefusals();
+        linkManyFixes();
         linkRefusalOrder();
         linkArguments();
         image();
@@ -462,6 +463,7 @@ public final class LinkMillTest {
         same("LOWER of 4096", fixed(-1, 2, 0), 0xfffff);
         same("NEAR", fixed(-1, 3, 6), 3 << 20 | 0xfffff);
         same("NEAR back", fixed(0, 3, -2), 0xfff00000);
+        same("NEAR at another address", fixedAt(0, -1, 3, 6), 3 << 20 | 0xfffff);
         same("FAR", fixed(-1, 4, 6), 3 << 10 | 0x3ff);
         same("FAR back", fixed(0, 4, -2), 0xfffffc00);
 
@@ -543,7 +545,10 @@ public final class LinkMillTest {
         same("the least", x.link(0, 0), -1009);
         x.clear(2);
         same("one global in the same", x.link(0, 0), -1015);
+        x.define(3, 0, 0, 0, true);
+        same("name 0", x.link(0, 0), -1000);
         x.clear(1);
+        x.clear(3);
         same("link", x.link(128, 0), 44);
 
         x.put(3, HALT, 0, 0, 0);
@@ -556,6 +561,10 @@ public final class LinkMillTest {
         x.put(2, HALT, 0, 0, 0);
         x.fix(2, 0, 0, 0, 9, 0);
         same("the first is fix 0 of object 2", x.link(0, 0), -2200);
+        x.fix(0, 0, 0, 0, 9, 0);
+        same("the first is fix 0 of object 0", x.link(0, 0), -2000);
+        x.define(0, 9, 0, 0, false);
+        same("it has one of its own", x.link(0, 0), -2200);
         x.clear(1);
         x.clear(2);
         x.define(1, 8, 0, 0, true);
@@ -567,6 +576,36 @@ public final class LinkMillTest {
         x.fix(3, 0, 0, 4, 9, 1);
         same("out of reach", x.link(0, 0), -3304);
         same("no global entry", x.link(0, 9), -3304);
+    }
+
+    private static void linkManyFixes() {
+        promise = "7";
+        LinkMill x = new LinkMill();
+        x.define(3, 0, 0, 0, true);
+        x.put(3, HALT, 0, 0, 0);
+        for (int k = 0; k < 15; k++) {
+            x.fix(3, 0, 0, 0, 0, k);
+        }
+        x.fix(3, 0, 0, 0, 1, 15);
+        same("the last name", x.link(0, 0), -2315);
+        x.define(3, 1, 0, 0, false);
+        same("link", x.link(4, 0), 40);
+        same("the last fix", imageWord(x, 36), 19);
+        x.clear(3);
+        x.define(3, 0, 0, 0, true);
+        x.put(3, HALT, 0, 0, 0);
+        for (int k = 0; k < 15; k++) {
+            x.fix(3, 0, 0, 3, 0, 2 * k);
+        }
+        same("no fix from before", x.link(0, 0), 40);
+        same("the last fix", imageWord(x, 36), 14 << 20);
+        x.fix(3, 0, 0, 3, 0, 1);
+        same("the last out of reach", x.link(0, 0), -3315);
+        x.clear(3);
+        x.define(3, 0, 0, 0, true);
+        x.put(3, HALT, 0, 0, 0);
+        same("no fix at all", x.link(0, 0), 40);
+        same("the word", imageWord(x, 36), 0);
     }
 
     private static void linkRefusalOrder() {
