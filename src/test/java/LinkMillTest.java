@@ -1,21 +1,5 @@
-import java.util.concurrent.Callable;
-
 /** At least one test for each promise of the document; prints what is wrong and ends with 1 if something is. */
-public final class LinkMillTest {
-    private static final int MAGIC = 1263422796;
-    private static final int NONE = LinkMill.NONE;
-    private static final Class<?> ARGUMENT = IllegalArgumentException.class;
-    private static final Class<?> STATE = IllegalStateException.class;
-    private static final Class<?> INDEX = IndexOutOfBoundsException.class;
-
-    private static final int HALT = 0, UPPER = 1, PLUS = 2, SUM = 3, LESS = 4, AND = 5, OR = 6, XOR = 7, LEFT = 8,
-            RIGHT = 9, BELOW = 10, LOAD = 11, STORE = 12, IFSAME = 13, IFOTHER = 14, IFBELOW = 15, CALL = 16,
-            BACK = 17, SHOW = 18;
-
-    private static String promise = "";
-    private static int checks = 0;
-    private static int wrong = 0;
-
+public final class LinkMillTest extends Checks {
     public static void main(String[] args) {
         newObject();
         putPlaces();
@@ -56,110 +40,7 @@ public final class LinkMillTest {
         shown();
         about();
         object();
-        System.out.println(wrong + " of " + checks + " checks are wrong");
-        if (wrong != 0) {
-            System.exit(1);
-        }
-    }
-
-    // ---- helpers
-
-    private static void same(String what, long got, long want) {
-        checks++;
-        if (got != want) {
-            wrong++;
-            System.out.println(promise + ": " + what + " is " + got + ", due is " + want);
-        }
-    }
-
-    private static void fails(String what, Class<?> want, Callable<?> call) {
-        checks++;
-        Class<?> got = null;
-        try {
-            call.call();
-        } catch (Exception e) {
-            got = e.getClass();
-        }
-        if (got != want) {
-            wrong++;
-            System.out.println(promise + ": " + what + " throws " + got + ", due is " + want);
-        }
-    }
-
-    private static int imageWord(LinkMill x, int at) {
-        return x.image(at) | x.image(at + 1) << 8 | x.image(at + 2) << 16 | x.image(at + 3) << 24;
-    }
-
-    private static void setImageWord(LinkMill x, int at, int w) {
-        for (int i = 0; i < 4; i++) {
-            x.alter(at + i, w >> 8 * i & 255);
-        }
-    }
-
-    private static int headerSum(LinkMill x) {
-        int sum = 0;
-        for (int k = 0; k < 8; k++) {
-            sum += imageWord(x, 4 * k);
-        }
-        return sum;
-    }
-
-    /** A mill with code 0 .. n-1 (HALT each) and one word of data, linked at 128 with entry 0. */
-    private static LinkMill linked(int halts) {
-        LinkMill x = new LinkMill();
-        x.define(0, 0, 0, 0, true);
-        for (int i = 0; i < halts; i++) {
-            x.put(0, HALT, 0, 0, 0);
-        }
-        x.word(0, 9);
-        same("link", x.link(128, 0), 36 + 4 * halts + 4);
-        return x;
-    }
-
-    /** An image with nothing but what is given, as bytes, so that every header word can be chosen. */
-    private static LinkMill raw(int... words) {
-        LinkMill x = new LinkMill();
-        x.stretch(4 * words.length);
-        for (int k = 0; k < words.length; k++) {
-            setImageWord(x, 4 * k, words[k]);
-        }
-        return x;
-    }
-
-    /** A sound header by the document, with the given addresses, and words of code and data. */
-    private static LinkMill sound(int entry, int code, int codeWords, int data, int dataWords) {
-        LinkMill x = raw(MAGIC, entry, code, 4 * codeWords, 36, data, 4 * dataWords, 36 + 4 * codeWords, 0);
-        setImageWord(x, 32, headerSum(x));
-        x.stretch(4 * (codeWords + dataWords));
-        return x;
-    }
-
-    /** Code of one object at an address, read and ready to run. */
-    private static LinkMill program(int base, int[][] code, int... data) {
-        LinkMill x = new LinkMill();
-        x.define(0, 0, 0, 0, true);
-        for (int[] i : code) {
-            x.put(0, i[0], i[1], i[2], i[3]);
-        }
-        for (int w : data) {
-            x.word(0, w);
-        }
-        x.link(base, 0);
-        same("read", x.read(), 0);
-        return x;
-    }
-
-    private static int[] in(int op, int a, int b, int c) {
-        return new int[] {op, a, b, c};
-    }
-
-    /** The word that an instruction is put together to. */
-    private static int encoded(int op, int a, int b, int c) {
-        LinkMill x = new LinkMill();
-        x.define(0, 0, 0, 0, true);
-        x.put(0, op, a, b, c);
-        x.link(0, 0);
-        return imageWord(x, 36);
+        end();
     }
 
     /** What a fix makes of a word of data at 4096, for a name at that word; or why the link is refused. */
@@ -182,7 +63,7 @@ public final class LinkMillTest {
     // ---- promise 1
 
     private static void newObject() {
-        promise = "1";
+        topic = "promise 1";
         LinkMill x = new LinkMill();
         same("NONE", LinkMill.NONE, -1);
         for (int o = 0; o < 4; o++) {
@@ -211,7 +92,7 @@ public final class LinkMillTest {
     // ---- promise 2
 
     private static void putPlaces() {
-        promise = "2";
+        topic = "promise 2";
         LinkMill x = new LinkMill();
         for (int o = 0; o < 4; o++) {
             for (int i = 0; i < 24; i++) {
@@ -226,7 +107,7 @@ public final class LinkMillTest {
     }
 
     private static void putWords() {
-        promise = "2";
+        topic = "promise 2";
         same("HALT", encoded(HALT, 31, 31, 12345678), 0);
         same("SHOW", encoded(SHOW, 31, 31, -12345678), 18 | 31 << 5);
         same("UPPER", encoded(UPPER, 31, 31, 1), 1 | 31 << 5 | 1 << 12);
@@ -248,7 +129,7 @@ public final class LinkMillTest {
     }
 
     private static void putRefusals() {
-        promise = "2";
+        topic = "promise 2";
         LinkMill x = new LinkMill();
         fails("object -1", ARGUMENT, () -> x.put(-1, HALT, 0, 0, 0));
         fails("object 4", ARGUMENT, () -> x.put(4, HALT, 0, 0, 0));
@@ -278,7 +159,7 @@ public final class LinkMillTest {
     // ---- promise 3
 
     private static void word() {
-        promise = "3";
+        topic = "promise 3";
         LinkMill x = new LinkMill();
         int[] words = {0, -1, Integer.MAX_VALUE, Integer.MIN_VALUE, 0x12345678, 5, 6, 7, 8, 9, 10, 11};
         for (int i = 0; i < 12; i++) {
@@ -300,7 +181,7 @@ public final class LinkMillTest {
     // ---- promise 4
 
     private static void define() {
-        promise = "4";
+        topic = "promise 4";
         LinkMill x = new LinkMill();
         x.put(1, HALT, 0, 0, 0);
         x.put(1, HALT, 0, 0, 0);
@@ -322,7 +203,7 @@ public final class LinkMillTest {
     }
 
     private static void defineRefusals() {
-        promise = "4";
+        topic = "promise 4";
         LinkMill x = new LinkMill();
         x.put(0, HALT, 0, 0, 0);
         fails("object -1", ARGUMENT, () -> x.define(-1, 0, 0, 0, true));
@@ -348,7 +229,7 @@ public final class LinkMillTest {
     // ---- promise 5
 
     private static void fix() {
-        promise = "5";
+        topic = "promise 5";
         LinkMill x = new LinkMill();
         x.put(2, HALT, 0, 0, 0);
         x.word(2, 0);
@@ -364,7 +245,7 @@ public final class LinkMillTest {
     }
 
     private static void fixRefusals() {
-        promise = "5";
+        topic = "promise 5";
         LinkMill x = new LinkMill();
         x.put(0, HALT, 0, 0, 0);
         fails("object -1", ARGUMENT, () -> x.fix(-1, 0, 0, 0, 0, 0));
@@ -386,7 +267,7 @@ public final class LinkMillTest {
     // ---- promise 6
 
     private static void clear() {
-        promise = "6";
+        topic = "promise 6";
         LinkMill x = linked(2);
         x.fix(0, 0, 0, 0, 0, 0);
         x.word(1, 5);
@@ -413,7 +294,7 @@ public final class LinkMillTest {
     // ---- promise 7
 
     private static void linkLayout() {
-        promise = "7";
+        topic = "promise 7";
         LinkMill x = new LinkMill();
         for (int o = 3; o >= 0; o--) {
             for (int i = 0; i <= o; i++) {
@@ -449,7 +330,7 @@ public final class LinkMillTest {
     }
 
     private static void linkFixes() {
-        promise = "7";
+        topic = "promise 7";
         same("WHOLE", fixed(-1, 0, 5), 4101);
         same("WHOLE below 0", fixedAt(0, 0, 0, -20000), 64 - 20000);
         same("UPPER", fixed(-1, 1, 0), 0x1fff);
@@ -487,7 +368,7 @@ public final class LinkMillTest {
     }
 
     private static void linkReach() {
-        promise = "7";
+        topic = "promise 7";
         same("NEAR greatest", fixed(0, 3, 4094), 2047 << 20);
         same("NEAR beyond", fixed(0, 3, 4096), -3000);
         same("NEAR least", fixed(0, 3, -4096), 0x80000000);
@@ -506,7 +387,7 @@ public final class LinkMillTest {
     }
 
     private static void linkNames() {
-        promise = "7";
+        topic = "promise 7";
         LinkMill x = new LinkMill();
         for (int o = 0; o < 3; o++) {
             x.put(o, HALT, 0, 0, 0);
@@ -530,7 +411,7 @@ public final class LinkMillTest {
     }
 
     private static void linkRefusals() {
-        promise = "7";
+        topic = "promise 7";
         LinkMill x = linked(1);
         x.define(1, 9, 0, 0, true);
         x.define(2, 9, 0, 0, true);
@@ -579,7 +460,7 @@ public final class LinkMillTest {
     }
 
     private static void linkManyFixes() {
-        promise = "7";
+        topic = "promise 7";
         LinkMill x = new LinkMill();
         x.define(3, 0, 0, 0, true);
         x.put(3, HALT, 0, 0, 0);
@@ -609,7 +490,7 @@ public final class LinkMillTest {
     }
 
     private static void linkRefusalOrder() {
-        promise = "7";
+        topic = "promise 7";
         LinkMill x = linked(1);
         x.put(1, HALT, 0, 0, 0);
         x.define(1, 1, 0, 0, false);
@@ -641,7 +522,7 @@ public final class LinkMillTest {
     }
 
     private static void linkArguments() {
-        promise = "7";
+        topic = "promise 7";
         LinkMill x = linked(1);
         fails("base 2", ARGUMENT, () -> x.link(2, 0));
         fails("base 1", ARGUMENT, () -> x.link(1, 0));
@@ -662,7 +543,7 @@ public final class LinkMillTest {
     // ---- promise 8
 
     private static void image() {
-        promise = "8";
+        topic = "promise 8";
         LinkMill x = linked(1);
         int[] first = {76, 77, 78, 75, 128, 0, 0, 0};
         for (int i = 0; i < first.length; i++) {
@@ -684,7 +565,7 @@ public final class LinkMillTest {
     // ---- promise 9
 
     private static void alter() {
-        promise = "9";
+        topic = "promise 9";
         LinkMill x = linked(1);
         same("read", x.read(), 0);
         same("alter", x.alter(43, 255) ? 1 : 0, 1);
@@ -704,7 +585,7 @@ public final class LinkMillTest {
     // ---- promise 10
 
     private static void stretch() {
-        promise = "10";
+        topic = "promise 10";
         LinkMill x = new LinkMill();
         same("nothing", x.stretch(0), 0);
         fails("below 0", ARGUMENT, () -> x.stretch(-1));
@@ -733,7 +614,7 @@ public final class LinkMillTest {
     // ---- promise 11
 
     private static void readHeaderWords() {
-        promise = "11";
+        topic = "promise 11";
         int[] answers = {-1, -2, -3, -4, -5, -6, -7, -8, -9};
         for (int k = 0; k < 9; k++) {
             LinkMill x = linked(2);
@@ -765,7 +646,7 @@ public final class LinkMillTest {
     }
 
     private static void readEdges() {
-        promise = "11";
+        topic = "promise 11";
         same("sound", sound(64, 64, 1, 128, 0).read(), 0);
         same("entry at the last word", sound(68, 64, 2, 128, 0).read(), 0);
         same("entry behind the code", sound(72, 64, 2, 128, 0).read(), -2);
@@ -808,7 +689,7 @@ public final class LinkMillTest {
     }
 
     private static void readMissingWords() {
-        promise = "11";
+        topic = "promise 11";
         // Behind word 0, word 2 is the next that is looked at.
         int[] missing = {0, 2, 2, 3, 4, 5, 6, 7, 8};
         for (int k = 0; k < 9; k++) {
@@ -821,7 +702,7 @@ public final class LinkMillTest {
     }
 
     private static void readSize() {
-        promise = "11";
+        topic = "promise 11";
         LinkMill x = linked(1);
         x.stretch(1);
         same("one byte more", x.read(), -10);
@@ -836,7 +717,7 @@ public final class LinkMillTest {
     }
 
     private static void readState() {
-        promise = "11";
+        topic = "promise 11";
         int[][] code = {in(PLUS, 1, 0, 5), in(SHOW, 1, 0, 0), in(STORE, 1, 0, 64), in(HALT, 0, 0, 0)};
         LinkMill x = program(0, code, 3);
         x.run(500);
@@ -871,7 +752,7 @@ public final class LinkMillTest {
     }
 
     private static void runArithmetic() {
-        promise = "12";
+        topic = "promise 12";
         int least = Integer.MIN_VALUE;
         int greatest = Integer.MAX_VALUE;
         same("SUM wraps", computed(SUM, greatest, 1), least);
@@ -900,7 +781,7 @@ public final class LinkMillTest {
     }
 
     private static void runRegisterZero() {
-        promise = "12";
+        topic = "promise 12";
         int[][] code = {in(UPPER, 0, 0, 1), in(PLUS, 0, 0, 7), in(LOAD, 0, 0, 64), in(CALL, 0, 0, 2),
             in(PLUS, 1, 0, 24), in(BACK, 0, 1, 0), in(SHOW, 0, 0, 0), in(SUM, 0, 1, 1)};
         LinkMill x = program(0, code, 5);
@@ -914,7 +795,7 @@ public final class LinkMillTest {
     }
 
     private static void runMemory() {
-        promise = "12";
+        topic = "promise 12";
         int[][] load = {in(LOAD, 1, 2, 0), in(LOAD, 1, 0, 64), in(PLUS, 3, 0, 72), in(LOAD, 1, 3, -4),
             in(STORE, 3, 3, -8), in(LOAD, 1, 0, 72)};
         LinkMill x = program(0, load, 41, 42);
@@ -953,7 +834,7 @@ public final class LinkMillTest {
     }
 
     private static void runJumps() {
-        promise = "12";
+        topic = "promise 12";
         int least = Integer.MIN_VALUE;
         same("IFSAME", target(IFSAME, 5, 5, -4), 0);
         same("IFSAME not", target(IFSAME, 5, 6, -4), 12);
@@ -991,7 +872,7 @@ public final class LinkMillTest {
     }
 
     private static void runUntoldBits() {
-        promise = "12";
+        topic = "promise 12";
         LinkMill x = sound(0, 0, 6, 64, 0);
         int[] words = {PLUS | 1 << 5 | 31 << 15 | 9 << 20, SHOW | 1 << 5 | -1 << 10, SUM | 2 << 5 | 1 << 10 | 1 << 15
             | -1 << 20, SHOW | 2 << 5, HALT | -1 << 5, 0};
@@ -1015,7 +896,7 @@ public final class LinkMillTest {
     }
 
     private static void runEnds() {
-        promise = "12";
+        topic = "promise 12";
         LinkMill x = program(64, new int[][] {in(PLUS, 1, 0, 1), in(HALT, 0, 0, 0)}, 7);
         same("up to n", x.run(1), 1);
         same("runs", x.about(1), 1);
@@ -1039,7 +920,7 @@ public final class LinkMillTest {
     }
 
     private static void runRefusals() {
-        promise = "12";
+        topic = "promise 12";
         LinkMill x = linked(1);
         fails("nothing read", STATE, () -> x.run(1));
         fails("n 0, nothing read", ARGUMENT, () -> x.run(0));
@@ -1060,7 +941,7 @@ public final class LinkMillTest {
     // ---- promise 13
 
     private static void value() {
-        promise = "13";
+        topic = "promise 13";
         LinkMill x = linked(1);
         x.define(0, 15, 1, 1, true);
         x.define(0, 3, 1, 0, false);
@@ -1085,7 +966,7 @@ public final class LinkMillTest {
     // ---- promise 14
 
     private static void register() {
-        promise = "14";
+        topic = "promise 14";
         LinkMill x = program(0, new int[][] {in(PLUS, 31, 0, -7), in(PLUS, 1, 0, 3), in(HALT, 0, 0, 0)});
         x.run(9);
         same("31", x.register(31), -7);
@@ -1101,7 +982,7 @@ public final class LinkMillTest {
     // ---- promise 15
 
     private static void memory() {
-        promise = "15";
+        topic = "promise 15";
         LinkMill x = program(124, new int[][] {in(PLUS, 1, 0, 192), in(STORE, 1, 1, 4)}, 5, 6);
         same("code", x.memory(124), encoded(PLUS, 1, 0, 192));
         same("the last of the code", x.memory(128), encoded(STORE, 1, 1, 4));
@@ -1125,7 +1006,7 @@ public final class LinkMillTest {
     // ---- promise 16
 
     private static void shown() {
-        promise = "16";
+        topic = "promise 16";
         int[][] code = {in(PLUS, 1, 1, 1), in(SHOW, 1, 0, 0), in(CALL, 0, 0, -4)};
         LinkMill x = program(0, code);
         for (int n = 1; n <= 40; n++) {
@@ -1149,7 +1030,7 @@ public final class LinkMillTest {
     // ---- promise 17
 
     private static void about() {
-        promise = "17";
+        topic = "promise 17";
         LinkMill x = linked(3);
         same("bytes", x.about(0), 52);
         for (int what = 1; what < 5; what++) {
@@ -1172,7 +1053,7 @@ public final class LinkMillTest {
     // ---- promise 18
 
     private static void object() {
-        promise = "18";
+        topic = "promise 18";
         LinkMill x = new LinkMill();
         for (int o = 0; o < 4; o++) {
             for (int i = 0; i < 4 + o; i++) {
