@@ -112,7 +112,7 @@ public final class LinkMill {
     }
 
     public int stretch(int by) throws IllegalArgumentException {
-        // The sum of two ints could wrap to a size that looks allowed.
+        // A long, so that the size is what it would be, however large the number of bytes is.
         long size = (long) picture.size + by;
         if (size < 0 || size > MOST_IMAGE_BYTES) {
             throw new IllegalArgumentException();

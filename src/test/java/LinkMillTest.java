@@ -1,31 +1,22 @@
-/** At least one test for each promise of the document; prints what is wrong and ends with 1 if something is. */
+/** Each promise of the document, in runs of several calls; the edges that it names are in EdgesTest. */
 public final class LinkMillTest extends Checks {
     public static void main(String[] args) {
         newObject();
-        putPlaces();
         putWords();
-        putRefusals();
         word();
         define();
-        defineRefusals();
         fix();
-        fixRefusals();
         clear();
         linkLayout();
         linkFixes();
-        linkReach();
         linkNames();
         linkRefusals();
         linkManyFixes();
         linkRefusalOrder();
-        linkArguments();
         image();
         alter();
         stretch();
         readHeaderWords();
-        readEdges();
-        readMissingWords();
-        readSize();
         readState();
         runArithmetic();
         runRegisterZero();
@@ -33,7 +24,6 @@ public final class LinkMillTest extends Checks {
         runJumps();
         runUntoldBits();
         runEnds();
-        runRefusals();
         value();
         register();
         memory();
@@ -91,21 +81,6 @@ public final class LinkMillTest extends Checks {
 
     // ---- promise 2
 
-    private static void putPlaces() {
-        topic = "promise 2";
-        LinkMill x = new LinkMill();
-        for (int o = 0; o < 4; o++) {
-            for (int i = 0; i < 24; i++) {
-                same("place", x.put(o, HALT, 0, 0, 0), i);
-            }
-            final int full = o;
-            fails("full", STATE, () -> x.put(full, HALT, 0, 0, 0));
-            fails("full, wrong op", ARGUMENT, () -> x.put(full, 19, 0, 0, 0));
-            fails("full, wrong c", ARGUMENT, () -> x.put(full, PLUS, 0, 0, 2048));
-            same("code", x.object(o, 0), 24);
-        }
-    }
-
     private static void putWords() {
         topic = "promise 2";
         same("HALT", encoded(HALT, 31, 31, 12345678), 0);
@@ -126,34 +101,6 @@ public final class LinkMillTest extends Checks {
             same("c -2048", encoded(op, 31, 4, -2048), op | 31 << 5 | 4 << 10 | 0x80000000);
             same("c -1", encoded(op, 0, 0, -1), op | 0xfff00000);
         }
-    }
-
-    private static void putRefusals() {
-        topic = "promise 2";
-        LinkMill x = new LinkMill();
-        fails("object -1", ARGUMENT, () -> x.put(-1, HALT, 0, 0, 0));
-        fails("object 4", ARGUMENT, () -> x.put(4, HALT, 0, 0, 0));
-        fails("op -1", ARGUMENT, () -> x.put(0, -1, 0, 0, 0));
-        fails("op 19", ARGUMENT, () -> x.put(0, 19, 0, 0, 0));
-        for (int op = HALT; op <= SHOW; op++) {
-            final int p = op;
-            fails("a -1", ARGUMENT, () -> x.put(0, p, -1, 0, 0));
-            fails("a 32", ARGUMENT, () -> x.put(0, p, 32, 0, 0));
-            fails("b -1", ARGUMENT, () -> x.put(0, p, 0, -1, 0));
-            fails("b 32", ARGUMENT, () -> x.put(0, p, 0, 32, 0));
-            if (op == HALT || op == SHOW) {
-                continue;
-            }
-            boolean registers = op >= SUM && op <= BELOW;
-            int bits = op == UPPER ? 20 : op == CALL ? 22 : 12;
-            int above = registers ? 32 : 1 << bits - 1;
-            int below = registers ? -1 : -above - 1;
-            fails("c above", ARGUMENT, () -> x.put(0, p, 0, 0, above));
-            fails("c below", ARGUMENT, () -> x.put(0, p, 0, 0, below));
-            fails("c greatest", ARGUMENT, () -> x.put(0, p, 0, 0, Integer.MAX_VALUE));
-            fails("c least", ARGUMENT, () -> x.put(0, p, 0, 0, Integer.MIN_VALUE));
-        }
-        same("code", x.object(0, 0), 0);
     }
 
     // ---- promise 3
@@ -202,30 +149,6 @@ public final class LinkMillTest extends Checks {
         same("value", x.value(5), 12);
     }
 
-    private static void defineRefusals() {
-        topic = "promise 4";
-        LinkMill x = new LinkMill();
-        x.put(0, HALT, 0, 0, 0);
-        fails("object -1", ARGUMENT, () -> x.define(-1, 0, 0, 0, true));
-        fails("object 4", ARGUMENT, () -> x.define(4, 0, 0, 0, true));
-        fails("name -1", ARGUMENT, () -> x.define(0, -1, 0, 0, true));
-        fails("name 16", ARGUMENT, () -> x.define(0, 16, 0, 0, true));
-        fails("section -1", ARGUMENT, () -> x.define(0, 0, -1, 0, true));
-        fails("section 2", ARGUMENT, () -> x.define(0, 0, 2, 0, true));
-        fails("place -1", ARGUMENT, () -> x.define(0, 0, 0, -1, true));
-        fails("place 2", ARGUMENT, () -> x.define(0, 0, 0, 2, true));
-        fails("data place 1", ARGUMENT, () -> x.define(0, 0, 1, 1, true));
-        fails("greatest place", ARGUMENT, () -> x.define(0, 0, 1, Integer.MAX_VALUE, true));
-        same("definitions", x.object(0, 2), 0);
-        for (int i = 1; i <= 8; i++) {
-            same("how many", x.define(0, 7, 0, 1, false), i);
-        }
-        fails("full", STATE, () -> x.define(0, 7, 0, 1, false));
-        fails("full, wrong name", ARGUMENT, () -> x.define(0, 16, 0, 1, false));
-        fails("full, wrong place", ARGUMENT, () -> x.define(0, 1, 0, 2, false));
-        same("definitions", x.object(0, 2), 8);
-    }
-
     // ---- promise 5
 
     private static void fix() {
@@ -242,26 +165,6 @@ public final class LinkMillTest extends Checks {
         fails("full, wrong kind", ARGUMENT, () -> x.fix(2, 0, 0, 5, 0, 0));
         fails("full, wrong place", ARGUMENT, () -> x.fix(2, 0, 1, 0, 0, 0));
         same("fixes", x.object(2, 3), 16);
-    }
-
-    private static void fixRefusals() {
-        topic = "promise 5";
-        LinkMill x = new LinkMill();
-        x.put(0, HALT, 0, 0, 0);
-        fails("object -1", ARGUMENT, () -> x.fix(-1, 0, 0, 0, 0, 0));
-        fails("object 4", ARGUMENT, () -> x.fix(4, 0, 0, 0, 0, 0));
-        fails("section -1", ARGUMENT, () -> x.fix(0, -1, 0, 0, 0, 0));
-        fails("section 2", ARGUMENT, () -> x.fix(0, 2, 0, 0, 0, 0));
-        fails("place -1", ARGUMENT, () -> x.fix(0, 0, -1, 0, 0, 0));
-        fails("behind the last", ARGUMENT, () -> x.fix(0, 0, 1, 0, 0, 0));
-        fails("no data", ARGUMENT, () -> x.fix(0, 1, 0, 0, 0, 0));
-        fails("kind -1", ARGUMENT, () -> x.fix(0, 0, 0, -1, 0, 0));
-        fails("kind 5", ARGUMENT, () -> x.fix(0, 0, 0, 5, 0, 0));
-        fails("name -1", ARGUMENT, () -> x.fix(0, 0, 0, 0, -1, 0));
-        fails("name 16", ARGUMENT, () -> x.fix(0, 0, 0, 0, 16, 0));
-        fails("add -20001", ARGUMENT, () -> x.fix(0, 0, 0, 0, 0, -20001));
-        fails("add 20001", ARGUMENT, () -> x.fix(0, 0, 0, 0, 0, 20001));
-        same("fixes", x.object(0, 3), 0);
     }
 
     // ---- promise 6
@@ -365,25 +268,6 @@ public final class LinkMillTest extends Checks {
             same("a fix of data", imageWord(x, 40), 2 << 10 | 0x3ff);
             same("a WHOLE behind another", imageWord(x, 44), 72 + base);
         }
-    }
-
-    private static void linkReach() {
-        topic = "promise 7";
-        same("NEAR greatest", fixed(0, 3, 4094), 2047 << 20);
-        same("NEAR beyond", fixed(0, 3, 4096), -3000);
-        same("NEAR least", fixed(0, 3, -4096), 0x80000000);
-        same("NEAR below", fixed(0, 3, -4098), -3000);
-        same("NEAR odd", fixed(0, 3, 1), -3000);
-        same("NEAR odd back", fixed(0, 3, -1), -3000);
-        same("NEAR just odd", fixed(0, 3, 4095), -3000);
-        same("NEAR just odd back", fixed(0, 3, -4097), -3000);
-        same("FAR odd", fixed(0, 4, 3), -3000);
-        same("FAR odd back", fixed(0, 4, -3), -3000);
-        same("FAR with the greatest add", fixed(0, 4, 20000), 10000 << 10);
-        same("FAR with the least add", fixed(0, 4, -20000), -10000 << 10);
-        same("the others reach all", fixed(0, 0, 19999), 4096 + 19999);
-        same("the others reach all", fixed(0, 1, 19999), 24095 + 2048 & -4096);
-        same("the others reach all", fixed(0, 2, 19999), 24095 << 20);
     }
 
     private static void linkNames() {
@@ -521,25 +405,6 @@ public final class LinkMillTest extends Checks {
         same("what was read stays", x.memory(192), 9);
     }
 
-    private static void linkArguments() {
-        topic = "promise 7";
-        LinkMill x = linked(1);
-        fails("base 2", ARGUMENT, () -> x.link(2, 0));
-        fails("base 1", ARGUMENT, () -> x.link(1, 0));
-        fails("base -4", ARGUMENT, () -> x.link(-4, 0));
-        fails("base least", ARGUMENT, () -> x.link(Integer.MIN_VALUE, 0));
-        fails("base beyond", ARGUMENT, () -> x.link(1000000004, 0));
-        fails("entry -1", ARGUMENT, () -> x.link(0, -1));
-        fails("entry 16", ARGUMENT, () -> x.link(0, 16));
-        same("image", x.about(0), 44);
-        same("value", x.value(0), 128);
-        LinkMill y = new LinkMill();
-        same("nothing to link", y.link(0, 15), -4015);
-        y.define(0, 15, 1, 0, true);
-        same("a name alone", y.link(60, 15), 36);
-        same("in the empty data", y.value(15), 64);
-    }
-
     // ---- promise 8
 
     private static void image() {
@@ -643,77 +508,6 @@ public final class LinkMillTest extends Checks {
         same("the first", x.read(), -3);
         setImageWord(x, 0, MAGIC - 1);
         same("the first", x.read(), -1);
-    }
-
-    private static void readEdges() {
-        topic = "promise 11";
-        same("sound", sound(64, 64, 1, 128, 0).read(), 0);
-        same("entry at the last word", sound(68, 64, 2, 128, 0).read(), 0);
-        same("entry behind the code", sound(72, 64, 2, 128, 0).read(), -2);
-        same("entry before the code", sound(60, 64, 2, 128, 0).read(), -2);
-        same("entry between words", sound(66, 64, 2, 128, 0).read(), -2);
-        same("code at 0", sound(0, 0, 1, 64, 1).read(), 0);
-        same("code below 0", sound(-4, -4, 1, 64, 1).read(), -3);
-        same("code between words", sound(64, 66, 2, 128, 0).read(), -3);
-        same("no code", sound(64, 64, 0, 128, 0).read(), -4);
-        same("code and data to the last byte", sound(64, 64, 200, 896, 41).read(), 0);
-        same("data between steps", sound(64, 64, 1, 160, 0).read(), -6);
-        same("data at the code's end", sound(0, 0, 16, 64, 0).read(), 0);
-        same("data below the code's end", sound(0, 0, 17, 64, 0).read(), -6);
-        same("data below the code", sound(64, 64, 1, 0, 0).read(), -6);
-        same("data below 0", sound(0, 0, 1, -64, 0).read(), -6);
-        int top = 2147483584;
-        same("data up to the last address", sound(0, 0, 1, top, 16).read(), 0);
-        same("data beyond", sound(0, 0, 1, top, 17).read(), -7);
-        same("code up to the last address", sound(top, top, 16, top, 0).read(), -6);
-        same("code beyond", sound(top, top, 17, top, 0).read(), -4);
-        readLengths();
-    }
-
-    private static void readLengths() {
-        int[] lengths = {4096, 4100, 2, -4, 4095, Integer.MIN_VALUE};
-        int[] asCode = {-10, -4, -4, -4, -4, -4};
-        int[] asData = {-10, -7, -7, -7, -7, -7};
-        for (int i = 0; i < lengths.length; i++) {
-            int n = lengths[i];
-            LinkMill x = raw(MAGIC, 0, 0, n, 36, 8192, 0, 36 + n, 0, 0);
-            setImageWord(x, 32, headerSum(x));
-            same("bytes of code " + n, x.read(), asCode[i]);
-            LinkMill y = raw(MAGIC, 0, 0, 4, 36, 8192, n, 40, 0, 0);
-            setImageWord(y, 32, headerSum(y));
-            same("bytes of data " + n, y.read(), asData[i]);
-        }
-        LinkMill none = raw(MAGIC, 0, 0, 4, 36, 8192, 0, 40, 0, 0);
-        setImageWord(none, 32, headerSum(none));
-        same("no data", none.read(), 0);
-    }
-
-    private static void readMissingWords() {
-        topic = "promise 11";
-        // Behind word 0, word 2 is the next that is looked at.
-        int[] missing = {0, 2, 2, 3, 4, 5, 6, 7, 8};
-        for (int k = 0; k < 9; k++) {
-            LinkMill x = linked(1);
-            x.stretch(4 * k - 44);
-            same(k + " words", x.read(), -1 - missing[k]);
-            x.stretch(3);
-            same(k + " words and 3 bytes", x.read(), -1 - missing[k]);
-        }
-    }
-
-    private static void readSize() {
-        topic = "promise 11";
-        LinkMill x = linked(1);
-        x.stretch(1);
-        same("one byte more", x.read(), -10);
-        x.stretch(-2);
-        same("one byte fewer", x.read(), -10);
-        x.stretch(-7);
-        same("the header alone", x.read(), -10);
-        LinkMill y = new LinkMill();
-        y.define(0, 0, 0, 0, true);
-        y.link(0, 0);
-        same("no code", y.read(), -4);
     }
 
     private static void readState() {
@@ -917,25 +711,6 @@ public final class LinkMillTest extends Checks {
         same("FAILED", z.about(1), 3);
         same("PC", z.about(2), 64);
         same("BACK keeps the way back", z.register(2), 8);
-    }
-
-    private static void runRefusals() {
-        topic = "promise 12";
-        LinkMill x = linked(1);
-        fails("nothing read", STATE, () -> x.run(1));
-        fails("n 0, nothing read", ARGUMENT, () -> x.run(0));
-        fails("n 501, nothing read", ARGUMENT, () -> x.run(501));
-        x.alter(0, 0);
-        x.read();
-        fails("read in vain", STATE, () -> x.run(1));
-        x.alter(0, 76);
-        x.read();
-        fails("n 0", ARGUMENT, () -> x.run(0));
-        fails("n -1", ARGUMENT, () -> x.run(-1));
-        fails("n 501", ARGUMENT, () -> x.run(501));
-        same("instructions", x.about(3), 0);
-        same("run", x.run(500), 1);
-        fails("n 0, halted", ARGUMENT, () -> x.run(0));
     }
 
     // ---- promise 13
