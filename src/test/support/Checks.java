@@ -119,7 +119,7 @@ class Checks {
         for (int what = 1; what < 5; what++) {
             trace.add((long) x.about(what));
         }
-        for (int r = 0; r < 6; r++) {
+        for (int r = 0; r < 32; r++) {
             trace.add((long) x.register(r));
         }
         for (int i = 0; i < 17; i++) {
